@@ -173,8 +173,31 @@ public final class BottleFourPromises {
     refused("dry 0;", 6, 6);
     refused("well 1 1 1;dry 1; ", 6, 18);
     refused("dry 2;#", 1, 6);
+    refused("bew 1;", 2, 0);
+    refused("dex 1;", 2, 0);
+    refused("one sly 4 1;", 3, 8);
+    refused("one sly 1 21 #", 3, 10);
+    refused("bottle 61 x;", 3, 7);
+    refused("goal 1 24 #", 3, 7);
+    refused("well 1 1 21 #", 3, 9);
+    refused("dry 3 #", 3, 4);
+    refused("dew 10 #", 3, 4);
+    refused("found 11 #", 3, 6);
+    refused("plan # ", 1, 5);
+    refused("one # sly", 1, 4);
+    taken("bottle 0;dew 0;found 0;goal 0 0;one sly 1 0;well 1 0 1;dry 0;", 7);
+    taken("plan night;", 1);
+    taken("bottle 00;", 1);
     BottleFour x = of("bottle 1;");
     due("fault of a text that was taken", x.fault(), 0);
+    feedAll(x, "bottle 12;");
+    x.end(8);
+    due("what was cut off is not read", x.text(), -18);
+    feedAll(x, "bottle 12;dew");
+    x.text();
+    feedAll(x, "bottle 1");
+    due("what was read is not read again", x.text(), -18);
+    due("its fault", x.fault(), 2);
   }
 
   private static final String FOUR =
@@ -208,6 +231,10 @@ public final class BottleFourPromises {
     due("giver wants", x.one(2, 3), 1);
     due("thirsty of 10 wants", x.one(3, 3), 0);
     due("measured at 20 wants", of("one measured 1 20;").one(0, 3), 1);
+    x = of("one measured 1 1;one thirsty 1 1;one last 1 1;one giver 1 1;");
+    int[] kinds = {0, 1, 3, 4};
+    for (int p = 0; p < 4; p++) due("kind of " + p, x.one(p, 0), kinds[p]);
+    due("who is sly and alone pours", of("one sly 1 1;").one(0, 3), 2);
   }
 
   private static void promise8Well() {
@@ -274,6 +301,8 @@ public final class BottleFourPromises {
     due("drink to 20", x.drink(0, 5), 20);
     due("the bottle then", x.rule(5), 4);
     due("drink 0", x.drink(0, 0), 20);
+    x = of("one sly 1 5;bottle 9;");
+    due("drink all of it", x.drink(0, 9), 14);
   }
 
   private static void promise13Fill() {
@@ -326,6 +355,8 @@ public final class BottleFourPromises {
     due("lay -1", x.lay(-1, 0), BAD);
     due("cloths then", x.rule(7), 9);
     due("found then", x.rule(8), 10);
+    due("cloths 0", x.lay(0, 0), 9);
+    due("found 0", x.lay(1, 0), 10);
   }
 
   /** Two givers and others in one hour: the order, the one who is lowest then, the bottle's end. */
@@ -372,6 +403,12 @@ public final class BottleFourPromises {
     due("a well up to where they are, 60 at most", x.rule(5), 60);
     due("it is not wet then", x.well(0, 3), 0);
     due("a well beyond is", x.well(1, 3), 1);
+    x.fill(0);
+    x.wet(0, true);
+    x.wet(1, false);
+    x.go(1);
+    due("a well where they were is passed by", x.rule(5), 0);
+    due("it is wet still", x.well(0, 3), 1);
     x = of("one last 1 6;one last 1 12;plan all;goal 60 6;");
     x.go(1);
     due("the level of 6 lost 2: 1 mile less by day", x.rule(3), 1);
@@ -449,6 +486,9 @@ public final class BottleFourPromises {
     due("down behind none", x.down(0), NONE);
     x = of("one last 1 3;goal 0 6;");
     due("over: down behind none", x.down(0), NONE);
+    // 48 hours by day lose 48: 20, and 28 of the bottle.
+    due("down behind 96", of("one last 1 20;bottle 28;goal 60 18;plan stay;").down(0), 96);
+    due("down behind 97 or more", of("one last 1 20;bottle 29;goal 60 18;plan stay;").down(0), NONE);
   }
 
   private static void promise21Arrive() {
@@ -471,6 +511,11 @@ public final class BottleFourPromises {
     x = of("one thirsty 1 20;bottle 60;dew 9;goal 60 18;plan stay;");
     due("96 hours are not enough to stay", x.arrive(3, 0), 0);
     due("he is up then", x.ahead(96, 2), 1);
+    // With 5 or less he makes a mile an hour by day: 48 in 96 hours.
+    String slow = "one last 1 5;bottle 60;dew 9;well 20 9 20;plan day;";
+    due("96 hours are enough", of(slow + "goal 48 18;").arrive(1, 1), 96);
+    due("96 hours are not enough", of(slow + "goal 49 18;").arrive(1, 0), 0);
+    due("though he is up", of(slow + "goal 49 18;").ahead(96, 2), 1);
   }
 
   private static void promise22Best() {
@@ -520,6 +565,9 @@ public final class BottleFourPromises {
     due("who is down now is not asked for", x.least(), 1);
     x = of("one measured 1 1;goal 60 6;plan stay;");
     due("none is enough to stay", x.least(), NONE);
+    String four = "one measured 1 1;one measured 1 1;one measured 1 1;one measured 1 1;";
+    due("four for 15 hours", of(four + "goal 6 6;").least(), 60);
+    due("four for 16 hours", of(four + "goal 8 6;").least(), NONE);
     due("nobody", new BottleFour().least(), NONE);
     due("nobody, at the goal", of("goal 0 1;").least(), 0);
   }
