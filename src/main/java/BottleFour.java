@@ -489,9 +489,9 @@ public final class BottleFour {
         if (!isSheet(k)) {
             return BAD;
         }
-        int found = sheets[k].faultAt(i);
-        if (found != 0) {
-            return -10 - found;
+        int met = sheets[k].faultAt(i);
+        if (met != 0) {
+            return -10 - met;
         }
         sheets[k].write(i, v);
         return 1;
@@ -503,13 +503,13 @@ public final class BottleFour {
         }
         Sheet row = sheets[k];
         trial.copyFrom(now);
-        int found = 0;
+        int met = 0;
         int drunk = 0;
         for (int i = 0; i < n; i++) {
             // A pair is looked at only behind one that was there, so this cannot run over.
             int cell = f + 2 * i;
-            found = row.faultOfPair(lane, cell);
-            if (found != 0) {
+            met = row.faultOfPair(lane, cell);
+            if (met != 0) {
                 break;
             }
             if (trial.drinkAsAsked(row.cells[cell], row.cells[cell + 1]) < 0) {
@@ -518,7 +518,7 @@ public final class BottleFour {
             drunk++;
         }
         now.copyFrom(trial);
-        readFault = found;
+        readFault = met;
         return drunk;
     }
 

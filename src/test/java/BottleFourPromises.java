@@ -516,6 +516,10 @@ public final class BottleFourPromises {
     due("96 hours are enough", of(slow + "goal 48 18;").arrive(1, 1), 96);
     due("96 hours are not enough", of(slow + "goal 49 18;").arrive(1, 0), 0);
     due("though he is up", of(slow + "goal 49 18;").ahead(96, 2), 1);
+    x = of(slow + "goal 49 6;");
+    due("he would be there behind 97", x.arrive(1, 0), 0);
+    due("a mile is left behind 96", x.ahead(96, 0), 48);
+    due("he is up there", x.ahead(96, 2), 1);
   }
 
   private static void promise22Best() {
