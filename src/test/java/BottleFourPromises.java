@@ -1,62 +1,12 @@
 /** For each promise of the document at least one test, with answers worked out by hand. */
-public final class BottleFourPromises {
-  private static final int BAD = -1, STATE = -2, FULL = -3, NONE = -4;
-  private static final int MIN = Integer.MIN_VALUE, MAX = Integer.MAX_VALUE;
-  private static int wrong = 0;
-
-  private static void due(String call, long got, long want) {
-    if (got != want) {
-      wrong++;
-      System.out.println(call + " answered " + got + ", due is " + want);
-    }
-  }
-
-  private static void feedAll(BottleFour x, String text) {
-    for (char c : text.toCharArray()) x.feed(c);
-  }
-
-  private static BottleFour of(String text) {
-    BottleFour x = new BottleFour();
-    feedAll(x, text);
-    int lines = x.text();
-    if (lines < 0) due("text() of " + text, lines, 0);
-    return x;
-  }
-
-  private static void refused(String text, int fault, int place) {
-    BottleFour x = new BottleFour();
-    feedAll(x, text);
-    due("text() of '" + text + "'", x.text(), -10 - place);
-    due("fault() of '" + text + "'", x.fault(), fault);
-  }
-
-  private static void taken(String text, int lines) {
-    BottleFour x = new BottleFour();
-    feedAll(x, text);
-    due("text() of '" + text + "'", x.text(), lines);
-    due("fault() of '" + text + "'", x.fault(), 0);
-  }
-
-  private static void fraction(String call, long numerator, long denominator, long a, long b) {
-    due(call + " numerator", numerator, a);
-    due(call + " denominator", denominator, b);
-  }
-
+public final class BottleFourPromises extends Checks {
   /** All that a call that is refused must leave as it was. */
   private static String all(BottleFour x) {
-    StringBuilder s = new StringBuilder();
-    for (int what = 0; what <= 8; what++) s.append(x.rule(what)).append(' ');
-    for (int p = 0; p < 4; p++) for (int what = 0; what < 3; what++) s.append(x.one(p, what)).append(' ');
-    for (int i = 0; i < 3; i++) for (int what = 0; what < 4; what++) s.append(x.well(i, what)).append(' ');
-    for (int what = 0; what <= 6; what++) s.append(x.count(what)).append(' ');
-    return s.append(x.torn()).toString();
+    return camp(x) + "; " + counts(x) + "; torn " + x.torn();
   }
 
   private static void unchanged(String call, BottleFour x, String before) {
-    if (!all(x).equals(before)) {
-      wrong++;
-      System.out.println(call + " changed " + before + " to " + all(x));
-    }
+    same(call, all(x), before);
   }
 
   private static void promise1New() {
@@ -128,63 +78,63 @@ public final class BottleFourPromises {
   }
 
   private static void promise5Fault() {
-    refused("one sly 1 123;", 1, 10);
-    refused("bottle 1;\n", 1, 9);
-    refused("One sly 1 1;", 1, 0);
-    refused("bottle 1,", 1, 8);
-    refused("123", 1, 0);
-    refused("bottle -1;", 1, 7);
-    refused("bottle", 2, 6);
-    refused("bottle  ", 2, 8);
-    refused("bottle 1 ", 2, 9);
-    refused("bottle 1 2;", 2, 9);
-    refused("bottle sly;", 2, 7);
-    refused(";", 2, 0);
-    refused("12;", 2, 0);
-    refused("onesly 1 1;", 2, 0);
-    refused("one 1 1 1;", 2, 4);
-    refused("one night 1 1;", 2, 4);
-    refused("plan sly;", 2, 5);
-    refused("plan 1;", 2, 5);
-    refused("plan", 2, 4);
-    refused("bottles 1;", 2, 0);
-    refused("bottl 1;", 2, 0);
-    refused("one sly 1 1 one", 2, 12);
-    refused("bottle 61 #", 3, 7);
-    refused("goal 61 24;", 3, 5);
-    refused("goal 60 24;", 3, 8);
-    refused("one sly 0 99;", 3, 8);
-    refused("one sly 3 21;", 3, 10);
-    refused("well 61 1 1;", 3, 5);
-    refused("well 1 11 1;", 3, 7);
-    refused("well 1 1 0;", 3, 9);
-    refused("well 1 1 21;", 3, 9);
-    refused("dew 10;", 3, 4);
-    refused("found 11;", 3, 6);
-    refused("dry 3;", 3, 4);
-    refused("goal 1 1;goal #", 4, 9);
-    refused("dew 1;dew", 4, 6);
-    refused("found 1;found 1;", 4, 8);
-    refused("plan day;plan #", 4, 9);
-    refused("bottle 1;bottle 99", 4, 9);
-    refused("dry 0;dry 0 #", 4, 10);
-    refused("well 1 1 1;well 1 1 1;well 1 1 1;well #", 5, 33);
-    refused("one sly 1 1;one sly 1 1;one sly 1 1;one sly 1 1;one", 5, 48);
-    refused("dry 0;", 6, 6);
-    refused("well 1 1 1;dry 1; ", 6, 18);
-    refused("dry 2;#", 1, 6);
-    refused("bew 1;", 2, 0);
-    refused("dex 1;", 2, 0);
-    refused("one sly 4 1;", 3, 8);
-    refused("one sly 1 21 #", 3, 10);
-    refused("bottle 61 x;", 3, 7);
-    refused("goal 1 24 #", 3, 7);
-    refused("well 1 1 21 #", 3, 9);
-    refused("dry 3 #", 3, 4);
-    refused("dew 10 #", 3, 4);
-    refused("found 11 #", 3, 6);
-    refused("plan # ", 1, 5);
-    refused("one # sly", 1, 4);
+    faulty("one sly 1 123;", 1, 10);
+    faulty("bottle 1;\n", 1, 9);
+    faulty("One sly 1 1;", 1, 0);
+    faulty("bottle 1,", 1, 8);
+    faulty("123", 1, 0);
+    faulty("bottle -1;", 1, 7);
+    faulty("bottle", 2, 6);
+    faulty("bottle  ", 2, 8);
+    faulty("bottle 1 ", 2, 9);
+    faulty("bottle 1 2;", 2, 9);
+    faulty("bottle sly;", 2, 7);
+    faulty(";", 2, 0);
+    faulty("12;", 2, 0);
+    faulty("onesly 1 1;", 2, 0);
+    faulty("one 1 1 1;", 2, 4);
+    faulty("one night 1 1;", 2, 4);
+    faulty("plan sly;", 2, 5);
+    faulty("plan 1;", 2, 5);
+    faulty("plan", 2, 4);
+    faulty("bottles 1;", 2, 0);
+    faulty("bottl 1;", 2, 0);
+    faulty("one sly 1 1 one", 2, 12);
+    faulty("bottle 61 #", 3, 7);
+    faulty("goal 61 24;", 3, 5);
+    faulty("goal 60 24;", 3, 8);
+    faulty("one sly 0 99;", 3, 8);
+    faulty("one sly 3 21;", 3, 10);
+    faulty("well 61 1 1;", 3, 5);
+    faulty("well 1 11 1;", 3, 7);
+    faulty("well 1 1 0;", 3, 9);
+    faulty("well 1 1 21;", 3, 9);
+    faulty("dew 10;", 3, 4);
+    faulty("found 11;", 3, 6);
+    faulty("dry 3;", 3, 4);
+    faulty("goal 1 1;goal #", 4, 9);
+    faulty("dew 1;dew", 4, 6);
+    faulty("found 1;found 1;", 4, 8);
+    faulty("plan day;plan #", 4, 9);
+    faulty("bottle 1;bottle 99", 4, 9);
+    faulty("dry 0;dry 0 #", 4, 10);
+    faulty("well 1 1 1;well 1 1 1;well 1 1 1;well #", 5, 33);
+    faulty("one sly 1 1;one sly 1 1;one sly 1 1;one sly 1 1;one", 5, 48);
+    faulty("dry 0;", 6, 6);
+    faulty("well 1 1 1;dry 1; ", 6, 18);
+    faulty("dry 2;#", 1, 6);
+    faulty("bew 1;", 2, 0);
+    faulty("dex 1;", 2, 0);
+    faulty("one sly 4 1;", 3, 8);
+    faulty("one sly 1 21 #", 3, 10);
+    faulty("bottle 61 x;", 3, 7);
+    faulty("goal 1 24 #", 3, 7);
+    faulty("well 1 1 21 #", 3, 9);
+    faulty("dry 3 #", 3, 4);
+    faulty("dew 10 #", 3, 4);
+    faulty("found 11 #", 3, 6);
+    faulty("plan # ", 1, 5);
+    faulty("one # sly", 1, 4);
     taken("bottle 0;dew 0;found 0;goal 0 0;one sly 1 0;well 1 0 1;dry 0;", 7);
     taken("plan night;", 1);
     taken("bottle 00;", 1);
@@ -948,7 +898,6 @@ public final class BottleFourPromises {
     promise39Read();
     promise40Torn();
     promise41Count();
-    System.out.println(wrong == 0 ? "all promises hold" : wrong + " answers are not as due");
-    if (wrong != 0) System.exit(1);
+    finish("all promises hold");
   }
 }
