@@ -118,17 +118,17 @@ public final class BottleFourEdges extends Checks {
     faulty(" ".repeat(159) + ";", 2, 159);
     faulty("dew 1;" + " ".repeat(151) + "dew", 4, 157);
     faulty(" ".repeat(157) + "dew", 2, 160);
-    x = of("one giver 3 4;bottle 5;goal 6 7;plan stay;well 8 9 10;dew 3;found 2;");
-    String before = camp(x);
+    String told = "one giver 3 4;bottle 5;goal 6 7;plan stay;well 8 9 10;dew 3;found 2;";
     String[] refused = {"#", "x", "bottle 61;", "bottle 1;bottle 1;", ONE + ONE + ONE + ONE + ONE, "dry 0;",
         "one last 1 9;goal 1 1;well 9 9 9;bottle 9;plan day;dew 9;found 9"};
     for (String text : refused) {
+      x = of(told);
       due("it has a FAULT: " + text, tell(x, text) < 0 ? 1 : 0, 1);
-      same("what was told stays", camp(x), before);
+      same("what was told stays", camp(x), camp(of(told)));
+      // Whatever a text told ahead of its FAULT is not left for the next.
+      due("the next text", tell(x, "plan all;"), 1);
+      same("it tells all by itself", rules(x), "rules 0 0 20 0 18 0 2 0 0");
     }
-    // Whatever a text told ahead of its FAULT is not left for the next.
-    due("the next text", tell(x, "plan all;"), 1);
-    same("it tells all by itself", rules(x), "rules 0 0 20 0 18 0 2 0 0");
   }
 
   private static void fault() {
@@ -169,6 +169,10 @@ public final class BottleFourEdges extends Checks {
     x = of("one measured 1 0;one thirsty 1 0;one last 1 0;one giver 1 0;");
     for (int p = 0; p < 4; p++) due("who is DOWN wants nothing: " + p, x.one(p, 3), 0);
     due("what he wants, not what he would get", of("one measured 1 20;").one(0, 3), 1);
+    x = of("one thirsty 1 4;one sly 1 9;bottle 9;goal 9 18;plan stay;");
+    due("now", x.drink(0, 1) * 10 + x.one(0, 3), 55);
+    due("an HOUR later, when he pours", x.one(1, 3) + 10 * x.go(1) + 100 * x.one(1, 3), 221);
+    due("of his new KIND", x.teach(1, 3) * 10 + x.one(1, 3), 20);
     bounds("one", 0, 3, (y, p) -> y.one(p, 0));
     bounds("one, what", 0, 3, (y, what) -> y.one(0, what));
     promise(8, "Of a WELL: 0 MILE, 1 ODDS, 2 CAPS, 3 whether it is WET (1, 0). BAD.");
@@ -319,6 +323,9 @@ public final class BottleFourEdges extends Checks {
     due("60 HOURS", x.go(60), 0);
     due("HOUR then", x.rule(4), 68);
     due("nobody", new BottleFour().go(60), 0);
+    x = of(STRONG + "plan stay;");
+    x.plan(0);
+    due("by the PLAN of now", x.go(1) * 10 + x.rule(3), 13);
     bounds("go", 0, 60, BottleFour::go);
     promise(18, "BAD; FULL: HOUR would be 1000 or more.");
     x = of(STRONG + "goal 0 23;");
@@ -490,6 +497,8 @@ public final class BottleFourEdges extends Checks {
     due("60: 15 HOURS", of(four + "goal 6 6;").least(), 60);
     due("what it has now is nothing to it", of(four + "goal 6 6;bottle 3;").least(), 60);
     due("there already", of(STRONG + "goal 0 6;bottle 9;").least(), 0);
+    BottleFour x = of("one measured 1 1;goal 2 18;plan stay;");
+    due("who is DOWN later is not DOWN now", x.ahead(96, 2) * 10 + x.plan(0) + x.least(), 3 + 1);
     due("nobody, at GOAL", of("goal 0 6;").least(), 0);
     onlyAsks("least", BottleFour::least);
     promise(24, "NONE: by none.");
@@ -507,6 +516,13 @@ public final class BottleFourEdges extends Checks {
     due("all measured", x.alike(0), 2);
     due("all last", x.alike(3), 1);
     due("by PLAN stay", x.plan(3) + x.alike(0), 0);
+    // Who is thirsty drinks all at once and makes 3 miles an hour for 4 hours, then 2 for 5; who is
+    // measured makes 2 an hour for 9.
+    for (String kind : new String[] {"measured", "thirsty"}) {
+      x = of("one " + kind + " 1 5;goal 22 18;bottle 5;");
+      due(kind + ", were he measured", x.alike(0), 0);
+      due(kind + ", were he thirsty", x.alike(1), 1);
+    }
     due("nobody", new BottleFour().alike(0), 0);
     due("who is DOWN does not arrive", of("one last 1 9;one last 1 0;goal 0 0;").alike(4), 1);
     bounds("alike", 0, 4, BottleFour::alike);
@@ -519,7 +535,10 @@ public final class BottleFourEdges extends Checks {
     due("20 CAPS", x.alone(0, 20), 12);
     due("the other: 3 miles an hour", x.alone(1, 0), 8);
     due("there already", of(STRONG + "goal 0 0;").alone(0, 0), 0);
-    due("sly alone pours in odd HOURS, too", of(ONE + "one sly 1 3;goal 4 19;").alone(1, 2), 2);
+    due("of his KIND", of("one measured 1 9;one thirsty 1 5;goal 22 18;").alone(1, 5), 9);
+    due("of his KIND, not of another's", of("one thirsty 1 9;one measured 1 5;goal 22 18;").alone(1, 5), NONE);
+    due("of his SIZE", of("one last 3 9;one last 1 2;goal 2 18;").alone(1, 0), 1);
+    due("of his SIZE, not of another's", of("one last 1 9;one last 3 2;goal 2 18;").alone(1, 0), NONE);
     x = of("one last 1 20;one last 1 5;goal 6 18;");
     due("nobody makes him slow", x.alone(0, 0), 2);
     due("he is slow by himself", x.alone(1, 0), 3);
@@ -832,6 +851,10 @@ public final class BottleFourEdges extends Checks {
     due("a new row", x.sheet(0, 2, 40), 1);
     due("its CELLS are 0", x.read(0, 2, 0, 20), 20);
     due("LEVEL still", x.one(0, 2), 1);
+    for (int i = 0; i < 40; i++) x.put(0, i, 9);
+    x.sheet(0, 1, 40);
+    due("its CELLS are 0, the first one, too", x.read(0, 1, 0, 20), 20);
+    x.sheet(0, 2, 40);
     x.put(0, 39, 1);
     x.sheet(0, 2, 2);
     x.sheet(0, 2, 40);

@@ -136,6 +136,26 @@ public final class BottleFourTerms extends Checks {
     String[] faulty = {"one sly 1 9;#", "bottle 9;x", "goal 9 9;goal 9 24;", "dew 9;dew 9;", "found 9;dry 0;",
         WELL + WELL + WELL + WELL, "plan all;dry 2;"};
     for (String text : faulty) refusedText(text);
+    asksBehindARefusedText();
+  }
+
+  /** Whatever a refused text told ahead of its FAULT, the next call shows nothing of it. */
+  private static void asksBehindARefusedText() {
+    String told = "one measured 1 2;one last 1 20;well 2 10 20;well 1 3 9;goal 20 18;bottle 3;found 3;";
+    Call[] asks = {x -> x.one(1, 3), x -> x.loses(1, true), BottleFour::pours, x -> x.go(5), x -> x.ahead(9, 1),
+        x -> x.ahead(9, 11), x -> x.down(0), x -> x.arrive(0, 1), x -> x.best(1), x -> x.late(1), BottleFour::least,
+        x -> x.alike(1), x -> x.alone(1, 4), x -> x.luck(2, 0, 0), x -> x.luck(2, 0, 1), x -> x.mean(0, 0),
+        x -> x.mean(0, 1), x -> x.stay(40, 0), x -> x.fits(0), x -> x.fits(1), x -> x.kinds(0), x -> x.kinds(1),
+        x -> x.drift(1, 9, 1), x -> x.drink(0, 3), x -> x.keep(0), x -> x.count(5), x -> x.count(6)};
+    String[] refused = {"#", "one giver 3 9;one sly 2 0;one last 1 1;well 9 9 9;plan stay;found 9;dew 9;bottle 60;goal 0 23"};
+    for (int i = 0; i < asks.length; i++) {
+      long want = asks[i].on(of(told));
+      for (String text : refused) {
+        BottleFour x = of(told);
+        tell(x, text);
+        due("ask " + i + " behind the refused text '" + text + "'", asks[i].on(x), want);
+      }
+    }
   }
 
   private static void refusedText(String text) {
@@ -333,6 +353,8 @@ public final class BottleFourTerms extends Checks {
     gives("9 0 8", "9 0 9", "not who is DOWN");
     gives("9 0 9", "10 0 9", "lower is only who is DOWN: for himself");
     gives("5", "6", "alone");
+    same("the first of all is given to, too", levels(after(1, "one last 1 5;one giver 1 9;bottle 9;plan stay;")),
+        "levels 6 9");
     // At 19 of 2 it is ONE 1 who pours: he is the last, ONE 0 has drunk when he gives.
     BottleFour x = after(1, "one thirsty 1 4;one giver 1 6;bottle 9;goal 9 19;plan stay;");
     same("the LEVEL then, not that of the hour's beginning", levels(x), "levels 10 7");
@@ -508,6 +530,10 @@ public final class BottleFourTerms extends Checks {
     faulty("dry 0;dew 10;", 3, 10);
     faulty("dry 0;dew", 2, 9);
     faulty("bottle # bottle", 1, 7);
+    faulty("one # sly", 1, 4);
+    faulty("plan # all", 1, 5);
+    faulty("one sly # 1", 1, 8);
+    faulty("bottle 1 # x", 1, 9);
     terms("1 no TOKEN, a NUMBER that is too long (its first byte).");
     for (int c = 0; c < 128; c++) {
       boolean begins = c == ' ' || c == ';' || c >= '0' && c <= '9' || c >= 'a' && c <= 'z';
@@ -610,6 +636,9 @@ public final class BottleFourTerms extends Checks {
     tell(x, ONE + WELL);
     same("people and wells of the latest text alone", camp(x), "rules 1 1 20 0 18 0 0 0 0; one 2 1 1; one -1 -1 -1;"
         + " one -1 -1 -1; one -1 -1 -1; well 1 1 1 1; well -1 -1 -1 -1; well -1 -1 -1 -1");
+    x = of("one sly 1 1;bottle 1;goal 1 1;plan all;well 1 1 1;dew 1;found 1;dry 0;");
+    x.text();
+    same("nothing is left of a text that told all", rules(x), AT_FIRST);
     x = of(WELL + "dry 0;");
     tell(x, WELL);
     due("a well that was dry in the text before", x.well(0, 3), 1);
