@@ -10,17 +10,14 @@ import java.util.Arrays;
 import java.util.HashSet;
 import java.util.Set;
 import java.util.TreeSet;
+import java.util.regex.Matcher;
 import java.util.regex.Pattern;
 
 /** The public face is the document's, the source keeps to LANGUAGE.md, calls make no objects. */
 public final class BottleFourFace {
   private static final String SOURCE = "src/main/java/BottleFour.java";
-  private static final String FACE = "feed(int) end(int) text() fault() rule(int) one(int,int) well(int,int) pours() "
-      + "loses(int,boolean) teach(int,int) drink(int,int) fill(int) plan(int) wet(int,boolean) odd(int,int) "
-      + "lay(int,int) go(int) ahead(int,int) down(int) arrive(int,int) best(int) late(int) least() alike(int) "
-      + "alone(int,int) luck(int,int,int):long mean(int,int):long stay(int,int):long see(int,int) forget(int) "
-      + "fits(int) kinds(int) drift(int,int,int) keep(int) back(int) sheet(int,int,int) put(int,int,int) "
-      + "read(int,int,int,int) torn() count(int)";
+  private static final String DOCUMENT = "../shared/DOC.md";
+  private static final Set<String> FACE = new TreeSet<>();
   private static int wrong = 0;
 
   private static void hold(String what, boolean is) {
@@ -30,26 +27,50 @@ public final class BottleFourFace {
     }
   }
 
+  /** Takes the face from the document; the source has each line of it to the letter, its names, too. */
+  private static void readTheFace() throws IOException {
+    String all = Files.readString(Path.of(DOCUMENT));
+    String source = Files.readString(Path.of(SOURCE));
+    Matcher face = Pattern.compile("(?s)## The public face.*?```java\\n(.*?)```").matcher(all);
+    boolean isTold = face.find();
+    hold("the document has a face", isTold);
+    for (String line : (isTold ? face.group(1) : "").split("\n")) {
+      String told = line.trim();
+      hold("the source has " + told, source.contains(told.endsWith(");") ? told.replace(";", " {") : told));
+      Matcher call = Pattern.compile("public (int|long) (\\w+)\\((.*)\\);").matcher(told);
+      if (!call.matches()) continue;
+      String types = call.group(3).replaceAll("(\\w+) \\w+", "$1").replace(" ", "");
+      FACE.add(call.group(2) + "(" + types + "):" + call.group(1));
+    }
+    hold("40 calls are told", FACE.size() == 40);
+  }
+
   private static String signature(Method m) {
     StringBuilder s = new StringBuilder(m.getName()).append('(');
     for (Class<?> c : m.getParameterTypes()) s.append(s.charAt(s.length() - 1) == '(' ? "" : ",").append(c);
-    return s.append(')').append(m.getReturnType() == int.class ? "" : ":" + m.getReturnType()).toString();
+    return s.append("):").append(m.getReturnType()).toString();
   }
 
   private static void faceIsAsTold() throws Exception {
-    Set<String> due = new TreeSet<>(Arrays.asList(FACE.split(" ")));
     Set<String> got = new TreeSet<>();
     for (Method m : BottleFour.class.getDeclaredMethods()) {
-      if (Modifier.isPublic(m.getModifiers())) got.add(signature(m));
-      else hold(m + " is private", Modifier.isPrivate(m.getModifiers()));
+      if (Modifier.isPublic(m.getModifiers())) {
+        got.add(signature(m));
+        hold(m + " is asked of an object", !Modifier.isStatic(m.getModifiers()));
+      } else {
+        hold(m + " is private", Modifier.isPrivate(m.getModifiers()));
+      }
     }
-    hold("methods " + got, got.equals(due));
+    hold("methods " + got, got.equals(FACE));
     hold("final class", Modifier.isFinal(BottleFour.class.getModifiers()));
     Constructor<?>[] made = BottleFour.class.getDeclaredConstructors();
     hold("one constructor", made.length == 1 && Modifier.isPublic(made[0].getModifiers())
         && made[0].getParameterCount() == 0);
     String[] names = {"BAD", "STATE", "FULL", "NONE"};
-    for (int i = 0; i < 4; i++) hold(names[i], BottleFour.class.getField(names[i]).getInt(null) == -1 - i);
+    for (int i = 0; i < 4; i++) {
+      Field f = BottleFour.class.getField(names[i]);
+      hold(names[i], f.getType() == int.class && f.getInt(null) == -1 - i && Modifier.isFinal(f.getModifiers()));
+    }
     for (Field f : BottleFour.class.getDeclaredFields()) {
       hold(f + " is private", Modifier.isPrivate(f.getModifiers()) || Arrays.asList(names).contains(f.getName()));
     }
@@ -57,7 +78,7 @@ public final class BottleFourFace {
 
   private static void namesAreApart() {
     Set<String> faceNames = new HashSet<>();
-    for (String s : FACE.split(" ")) faceNames.add(s.substring(0, s.indexOf('(')));
+    for (String s : FACE) faceNames.add(s.substring(0, s.indexOf('(')));
     for (Class<?> inside : BottleFour.class.getDeclaredClasses()) {
       hold(inside + " is static", Modifier.isStatic(inside.getModifiers()));
       hold(inside + " has some twenty fields at most", fieldsOf(inside) <= 20);
@@ -120,6 +141,7 @@ public final class BottleFourFace {
   }
 
   public static void main(String[] args) throws Exception {
+    readTheFace();
     faceIsAsTold();
     namesAreApart();
     sourceKeepsToTheLanguage();
